@@ -27,6 +27,12 @@ final class Due {
         is(what, isSo ? 1 : 0, 1);
     }
 
+    /** Numbers below 0, from the end on, and those at the ends of int. */
+    static int[] outside(int end) {
+        return new int[] {Integer.MIN_VALUE, Integer.MIN_VALUE + 1, -65536, -2, -1, end, end + 1, 2 * end, 65536,
+            Integer.MAX_VALUE - 1, Integer.MAX_VALUE};
+    }
+
     /** Puts a text in place of the one that is there. */
     static void write(BlockRanks x, String text) {
         x.clearText();
@@ -41,6 +47,15 @@ final class Due {
             for (int column = 0; column < rows[row].length; column++) {
                 x.set(table, row, column, rows[row][column]);
             }
+        }
+    }
+
+    /** Splits a table into 64 leaves of the size 1: 21 calls. */
+    static void splitAll(BlockRanks x, int table) {
+        int leaf = 0;
+        for (int size : new int[] {8, 4, 2, 2, 2, 2, 4, 2, 2, 2, 2, 4, 2, 2, 2, 2, 4, 2, 2, 2, 2}) {
+            x.split(table, leaf);
+            leaf += size == 2 ? 4 : 0;
         }
     }
 
