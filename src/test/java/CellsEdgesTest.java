@@ -3,6 +3,9 @@
  * The first remark of a test names the promise and the sentence; SentencesTest compares it with the document.
  */
 public final class CellsEdgesTest {
+    /** The determinant of the powers of 0 to 7: 1! 2! 3! 4! 5! 6! 7!, modulo 251. */
+    private static final int POWERS_DETERMINANT = (int) (125411328000L % 251);
+
     private static final Due DUE = new Due("CellsEdgesTest");
 
     public static void main(String[] args) {
@@ -720,7 +723,7 @@ public final class CellsEdgesTest {
             for (int lower = 0; lower < 4; lower++) {
                 BlockRanks x = vandermonde(table);
                 int upper = lower == 3 ? 0 : lower + 1;
-                DUE.holds("factor", x.factor(table, lower, upper) > 0);
+                DUE.is("factor", x.factor(table, lower, upper), POWERS_DETERMINANT);
                 for (int i = 0; i < 64; i++) {
                     // The first factor of this table: Newton's basis, so the binomial coefficients.
                     DUE.is("lower " + lower + " of " + table + ", cell " + i, x.cell(lower, i / 8, i % 8), binomial(i / 8, i % 8));
@@ -740,7 +743,7 @@ public final class CellsEdgesTest {
             for (int upper = 0; upper < 4; upper++) {
                 BlockRanks x = vandermonde(table);
                 int lower = upper == 3 ? 0 : upper + 1;
-                DUE.holds("factor", x.factor(table, lower, upper) > 0);
+                DUE.is("factor", x.factor(table, lower, upper), POWERS_DETERMINANT);
                 int factorial = 1;
                 for (int i = 0; i < 8; i++) {
                     factorial = i == 0 ? 1 : factorial * i % 251;
@@ -825,9 +828,8 @@ public final class CellsEdgesTest {
         x.set(0, 7, 7, 0);
         DUE.is("and 0", x.factor(0, 1, 2), 0);
         BlockRanks y = vandermonde(1);
-        // 1! 2! 3! 4! 5! 6! 7! is 125411328000.
-        DUE.is("the powers", y.factor(1, 0, 2), (int) (125411328000L % 251));
-        DUE.is("it is the determinant", y.table(1, 1), (int) (125411328000L % 251));
+        DUE.is("the powers", y.factor(1, 0, 2), POWERS_DETERMINANT);
+        DUE.is("it is the determinant", y.table(1, 1), POWERS_DETERMINANT);
     }
 
     /** Promise 6: "BAD_VALUE if lower and upper are the same". Also if they are the table itself. */

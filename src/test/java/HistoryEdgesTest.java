@@ -147,6 +147,7 @@ public final class HistoryEdgesTest {
         isAnAct("addProduct(0, 0)", "1,2,3,4,5,6,0,1;1,1,1,1,1,1,1,6", x -> x.addProduct(0, 0));
         isAnAct("addProduct(0, 0) of 0", "0,0,0,0,0,0,0,0;1,2,3,4,5,6,0,1", x -> x.addProduct(0, 0));
         isAnAct("addProduct(1, 3) of 0", "6,6;0,0", x -> x.addProduct(1, 3));
+        isAnAct("addProduct(1, 0) of zeros alone", "0,0;0,0", x -> x.addProduct(1, 0));
     }
 
     /** Promise 5: "This is an act." Also if no cell becomes another one. */
@@ -394,18 +395,22 @@ public final class HistoryEdgesTest {
                 x.split(table, 0);
             }
         };
-        Look.Steps changed = x -> {
+        undoes("setPrime(2)", before, x -> x.setPrime(2));
+        undoes("restore()", before, BlockRanks::restore);
+        for (int i = 0; i < 4; i++) {
+            int table = i;
+            undoes("set in " + table, before, x -> x.set(table, 4, 5, 3));
+            undoes("split in " + table, before, x -> x.split(table, x.table(table, 3) - 1));
+            undoes("recompress(" + table + ")", before, x -> x.recompress(table));
+        }
+    }
+
+    private static void undoes(String name, Look.Steps before, Call act) {
+        LOOK.sameNow(name + " and undo()", x -> {
             before.on(x);
-            x.setPrime(2);
+            DUE.holds(name + " is neither an error nor NONE", act.on(x) >= 0);
             x.undo();
-        };
-        LOOK.sameNow("setPrime(2) and undo()", changed, before);
-        Look.Steps restored = x -> {
-            before.on(x);
-            x.restore();
-            x.undo();
-        };
-        LOOK.sameNow("restore() and undo()", restored, before);
+        }, before);
     }
 
     /** Promise 12, HISTORY: "A state is everything but the text, the history and the snapshot." The text. */

@@ -310,7 +310,8 @@ public final class RefusalsTest {
         refused("place 8", EIGHT, BlockRanks.BAD_VALUE, x -> x.times(3, 8));
         refused("the empty text", "", -100, x -> x.times(3, 0));
         refused("a number too many", EIGHT + ",1", -115, x -> x.times(3, 0));
-        refused("a number is p", "1,2,3,4,5,6,0,7", BlockRanks.BAD_VALUE, x -> x.times(3, 0));
+        refused("the first number is p", "7,2,3,4,5,6,0,1", BlockRanks.BAD_VALUE, x -> x.times(3, 0));
+        refused("the last number is p", "1,2,3,4,5,6,0,7", BlockRanks.BAD_VALUE, x -> x.times(3, 0));
     }
 
     /** Promise 21, ERRORS: "A call that returns an error or NONE changes nothing." */

@@ -403,6 +403,10 @@ public final class TextsEdgesTest {
         DUE.is("a row that is too short", x.addProduct(0, 0), -101);
         Due.write(x, "1,2,3;4");
         DUE.is("a row that is too long", x.addProduct(0, 0), -103);
+        Due.write(x, "1,2;3,4,5,6");
+        DUE.is("two numbers behind the end", x.addProduct(0, 0), -107);
+        Due.write(x, "A=B'+C");
+        DUE.is("two signs behind the end", x.work(), -104);
         Due.write(x, "E-F/");
         DUE.is("nothing is right", x.work(), -100);
         Due.write(x, "A=F/");

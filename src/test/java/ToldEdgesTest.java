@@ -351,6 +351,10 @@ public final class ToldEdgesTest {
         x.set(0, 0, 7, 1);
         DUE.is("the second leaf", x.table(0, 7), 2);
         DUE.is("the rank of the table", x.table(0, 0), 2);
+        BlockRanks z = new BlockRanks();
+        Due.splitAll(z, 1);
+        z.set(1, 7, 7, 1);
+        DUE.is("the last of 64", z.table(1, 7), 1);
         BlockRanks y = powers();
         DUE.is("no split", y.table(0, 7), 8);
         y.split(0, 0);
