@@ -8,12 +8,11 @@ import java.nio.file.Path;
 import java.util.ArrayList;
 import java.util.Arrays;
 import java.util.List;
-import java.util.regex.Pattern;
 
-/** The public face, and those rules of LANGUAGE.md that can be seen from the class and its text. */
+/** The public face: each constant, the constructor and each method, and no other member that is seen from outside. */
 public final class FaceTest {
+    private static final Path DOCUMENT = Path.of("../shared/DOC.md");
     private static final Path SOURCE = Path.of("src/main/java/BlockRanks.java");
-    private static final int LONGEST_METHOD = 60;
     private static final String[] METHODS = {"addProduct(int,int)", "cell(int,int,int)", "clearText()", "count(int)",
         "differ(int,int)", "factor(int,int,int)", "join(int,int)", "keep()", "leaf(int,int,int)", "leafAt(int,int,int)",
         "recompress(int)", "restore()", "set(int,int,int,int)", "setPrime(int)", "solve(int,int)", "split(int,int)",
@@ -22,13 +21,28 @@ public final class FaceTest {
     private static final Due DUE = new Due("FaceTest");
 
     public static void main(String[] args) throws IOException {
+        linesOfTheDocument();
         constants();
         methods();
         fields();
-        classesInside();
-        words();
-        methodsAreShort();
         DUE.finish();
+    }
+
+    /** Each line of the document's face stands in the source, and nothing else there is public. */
+    private static void linesOfTheDocument() throws IOException {
+        DUE.promise("the public face");
+        String document = Files.readString(DOCUMENT);
+        String[] blocks = document.split("```(java)?\n");
+        String source = Files.readString(SOURCE);
+        int lines = 0;
+        for (String line : blocks.length > 1 ? blocks[1].split("\n") : new String[0]) {
+            if (line.contains("public")) {
+                lines++;
+                DUE.holds("'" + line.trim() + "'", source.contains("\n" + line.replace(");", ") {") + "\n"));
+            }
+        }
+        DUE.is("lines of the face", lines, 28);
+        DUE.is("what is public", source.split("\\bpublic\\b").length - 1, lines);
     }
 
     private static void constants() {
@@ -88,56 +102,5 @@ public final class FaceTest {
             DUE.holds(field + " is final if static", !Modifier.isStatic(modifiers) || Modifier.isFinal(modifiers));
         }
         DUE.is("public constants", publicOnes, 5);
-    }
-
-    private static void classesInside() {
-        DUE.promise("rules 1, 2 and 11");
-        Class<?>[] classes = BlockRanks.class.getDeclaredClasses();
-        DUE.holds("at most twelve classes", classes.length <= 11);
-        for (Class<?> inside : classes) {
-            int modifiers = inside.getModifiers();
-            DUE.holds(inside + " is static", Modifier.isStatic(modifiers) && !Modifier.isPublic(modifiers));
-            DUE.holds(inside + " has few fields", inside.getDeclaredFields().length <= 20);
-        }
-    }
-
-    private static String plainSource() throws IOException {
-        String source = Files.readString(SOURCE);
-        return source.replaceAll("(?s)/\\*.*?\\*/", "").replaceAll("//[^\n]*", "").replaceAll("'(\\\\.|[^\\\\'])'", "0");
-    }
-
-    private static void words() throws IOException {
-        DUE.promise("rules 2, 4 and 6");
-        String source = plainSource();
-        String[] words = {"throw", "throws", "try", "catch", "synchronized", "assert", "import", "package", "protected",
-            "instanceof", "equals", "hashCode", "toString", "float", "double", "volatile", "native"};
-        for (String word : words) {
-            DUE.holds("no " + word, !Pattern.compile("\\b" + word + "\\b").matcher(source).find());
-        }
-        DUE.holds("no lambda", !source.contains("->"));
-        DUE.holds("no method reference", !source.contains("::"));
-        DUE.holds("no call makes an object: only fields do", source.lines()
-            .filter(line -> line.contains("new ")).allMatch(line -> line.contains("private final")));
-        DUE.holds("signs 1 to 127", source.chars().allMatch(sign -> sign > 0 && sign < 128));
-    }
-
-    /** A method's lines are those from its head, which is indented by 4 or 8, to the brace below it. */
-    private static void methodsAreShort() throws IOException {
-        DUE.promise("rule 11");
-        List<String> lines = Files.readAllLines(SOURCE);
-        int methods = 0;
-        for (int i = 0; i < lines.size(); i++) {
-            String line = lines.get(i);
-            if (line.matches("( {4}| {8})[\\w\\[\\] ]+\\(.*\\) \\{") && !line.matches(" *(if|for|while|switch|else) .*")) {
-                String end = line.replaceAll("\\S.*", "") + "}";
-                int last = i;
-                while (last < lines.size() && !lines.get(last).equals(end)) {
-                    last++;
-                }
-                methods++;
-                DUE.holds("short: " + line.trim(), last - i < LONGEST_METHOD);
-            }
-        }
-        DUE.holds("methods are found", methods > 60);
     }
 }
